@@ -1,0 +1,203 @@
+import java.util.Random;
+
+/** Promises 1 to 16: long runs of calls by chance, from fixed seeds, each answer held against the Model's. */
+public final class RandomTest {
+    private static final int RUNS = 8000;
+    private static final int CALLS = 512;
+    private static final String SIGNS = "pqABH019-+*/<>=#(),?! ";
+
+    private final Random random;
+    private final Bench bench = new Bench();
+    private final Model model = new Model();
+    private final String name;
+    private int calls;
+
+    private RandomTest(long seed) {
+        random = new Random(seed);
+        name = "run " + seed + ": ";
+    }
+
+    public static void main(String[] args) {
+        int[] results = new int[17];
+        for (int run = 0; run < RUNS; run++) {
+            new RandomTest(run).run(results);
+        }
+        // A run by chance that never came to a result would have tested nothing of it.
+        for (int result = -6; result <= 1; result++) {
+            Bench.due("authorize() answered " + result + " at least 100 times", results[result + 6] >= 100 ? 1 : 0, 1);
+        }
+        Bench.close();
+    }
+
+    private void run(int[] results) {
+        calls = 0;
+        while (calls < CALLS - 130) {
+            int dice = random.nextInt(24);
+            if (dice < 10) {
+                write(false);
+            } else if (dice < 16) {
+                write(true);
+            } else if (dice < 18) {
+                makeToken();
+            } else if (dice < 19) {
+                tamper();
+            } else if (dice < 22) {
+                authorize(results);
+            } else if (dice < 23) {
+                setLimits();
+            } else {
+                ask();
+            }
+        }
+    }
+
+    private void setLimits() {
+        int most = random.nextInt(3) > 0 ? 30 : random.nextInt(33) - 1;
+        int more = random.nextInt(3) > 0 ? 10 : random.nextInt(14);
+        check("limits(" + most + ", " + more + ")", bench.chain.limits(most, more) ? 1 : 0, model.limits(most, more));
+    }
+
+    private int below(int bound) {
+        return random.nextInt(20) == 0 ? random.nextInt(20) - 2 : random.nextInt(Math.max(1, bound));
+    }
+
+    private void write(boolean toDesk) {
+        String text = random.nextInt(40) == 0 ? scribble() : clauseText(toDesk);
+        if (random.nextInt(10) == 0) {
+            text = spoil(text);
+        }
+        if (random.nextInt(20) == 0) {
+            text = text.replaceAll("(?<![0-9-])(?=.)", " ");
+        }
+        for (char c : text.toCharArray()) {
+            check("type " + c, bench.chain.type(c) ? 1 : 0, model.type(c));
+        }
+        int got = Bench.answer(toDesk ? bench.chain::desk : bench.chain::clause);
+        check((toDesk ? "desk of " : "clause of ") + text, got, toDesk ? model.desk() : model.clause());
+        if (got < 0) {
+            bench.chain.wipe();
+            model.wipe();
+        }
+        if (toDesk && got == Bench.STATE) {
+            bench.chain.clear();
+            model.clear();
+        }
+    }
+
+    private String scribble() {
+        StringBuilder text = new StringBuilder();
+        for (int i = random.nextInt(12); i >= 0; i--) {
+            text.append(SIGNS.charAt(random.nextInt(SIGNS.length())));
+        }
+        return text.toString();
+    }
+
+    private String spoil(String text) {
+        int at = random.nextInt(text.length());
+        String sign = "" + SIGNS.charAt(random.nextInt(SIGNS.length()));
+        int how = random.nextInt(3);
+        return text.substring(0, at) + (how == 0 ? "" : sign) + text.substring(how == 1 ? at : at + 1);
+    }
+
+    private String clauseText(boolean toDesk) {
+        int kind = random.nextInt(toDesk ? 18 : 14);
+        if (kind < 7) {
+            return atom("0123");
+        }
+        StringBuilder body = new StringBuilder();
+        int atoms = 1 + random.nextInt(random.nextInt(4) + 1);
+        for (int i = 0; i < atoms; i++) {
+            body.append(i == 0 ? "" : ",").append(atom("AAABBB2C"));
+        }
+        String known = body.toString().replaceAll("[^A-H]", "") + (random.nextInt(20) == 0 ? "AH" : "");
+        for (int i = random.nextInt(6) / 2; i > 0; i--) {
+            body.append(',').append(sum(2, known)).append("<>=#".charAt(random.nextInt(4))).append(sum(2, known));
+        }
+        String check = "" + "?!".charAt(random.nextInt(2));
+        String policy = toDesk || random.nextInt(20) == 0 ? "" + "++-".charAt(random.nextInt(3)) : check;
+        String mark = kind < 12 ? atom(known + known + "1") + "=" : kind < 13 ? check : policy;
+        return mark + body + (random.nextInt(4) == 0 ? "*" : "");
+    }
+
+    private String atom(String terms) {
+        String letter = "" + "pqr".charAt(random.nextInt(3));
+        int size = random.nextInt(10);
+        if (size == 0) {
+            return letter;
+        }
+        return size < 7 ? letter + "(" + term(terms) + ")" : letter + "(" + term(terms) + "," + term(terms) + ")";
+    }
+
+    private String term(String terms) {
+        return random.nextInt(12) == 0 ? "-" + random.nextInt(3) : "" + terms.charAt(random.nextInt(terms.length()));
+    }
+
+    private String sum(int depth, String known) {
+        int dice = depth == 0 ? 0 : random.nextInt(12);
+        if (dice < 7) {
+            boolean plain = known.isEmpty() || random.nextInt(3) == 0;
+            return plain ? "" + number() : "" + known.charAt(random.nextInt(known.length()));
+        }
+        String inner = sum(depth - 1, known) + "+-*/".charAt(random.nextInt(4)) + sum(depth - 1, known);
+        return dice < 9 ? "(" + inner + ")" : inner;
+    }
+
+    private int number() {
+        return random.nextInt(6) == 0 ? 9999 : random.nextInt(4);
+    }
+
+    private void makeToken() {
+        int known = model.count(0);
+        int which = random.nextInt(4);
+        int token = below(known);
+        if (known == 0 || which == 0) {
+            int root = random.nextInt(8) == 0 ? random.nextInt(5) : 1;
+            check("issue(" + root + ")", bench.issue(root), model.issue(root));
+        } else if (which < 3) {
+            check("append(" + token + ")", bench.append(token), model.append(token));
+        } else {
+            check("seal(" + token + ")", bench.seal(token), model.seal(token));
+        }
+    }
+
+    private void tamper() {
+        int token = below(model.count(0));
+        int how = below(7);
+        int a = below(3);
+        int b = below(3);
+        check("tamper(" + token + ", " + how + ", " + a + ", " + b + ")", bench.tamper(token, how, a, b),
+            model.tamper(token, how, a, b));
+    }
+
+    private void authorize(int[] results) {
+        int token = below(model.count(0));
+        int root = random.nextInt(15) == 0 ? random.nextInt(5) : 1;
+        int got = bench.authorize(token, root);
+        check("authorize(" + token + ", " + root + ")", got, model.authorize(token, root));
+        if (got >= -6 && got <= 10) {
+            results[got + 6]++;
+        }
+        for (int what = 0; what < 4; what++) {
+            check("latest(" + what + ")", bench.chain.latest(what), model.latest(what));
+        }
+        int k = below(model.latest(1) + 1);
+        for (int what = 0; what < 5; what++) {
+            check("fact(" + k + ", " + what + ")", bench.fact(k, what), model.fact(k, what));
+        }
+    }
+
+    private void ask() {
+        int what = below(7);
+        check("count(" + what + ")", bench.chain.count(what), model.count(what));
+        int token = below(model.count(0));
+        int part = random.nextInt(4) * 10 + below(4);
+        check("token(" + token + ", " + part + ")", bench.token(token, part), model.token(token, part));
+        check("latest(" + part + ")", bench.chain.latest(part), model.latest(part));
+        check("fact(" + token + ", " + what + ")", bench.fact(token, what), model.fact(token, what));
+    }
+
+    private void check(String call, int got, int want) {
+        calls++;
+        Bench.due(name + "call " + calls + ", " + call, got, want);
+    }
+}
