@@ -322,8 +322,8 @@ public final class GrantChain {
             return bit(first) | bit(second);
         }
 
-        private static int bit(int term) {
-            return term >= VARIABLE ? 1 << term - VARIABLE : 0;
+        static int bit(int term) {
+            return term >= VARIABLE ? 1 << (term - VARIABLE) : 0;
         }
     }
 
@@ -571,18 +571,22 @@ public final class GrantChain {
             char sign = line.sign();
             if (sign == '(') {
                 line.at++;
-                return open < OPEN_ROOM && readSum(line, open + 1) && line.takes(')');
+                if (open >= OPEN_ROOM || !readSum(line, open + 1) || line.sign() != ')') {
+                    return false;
+                }
+                line.at++;
+                return true;
             }
             if (isVariable(sign)) {
                 line.at++;
-                neededVariables |= 1 << sign - 'A';
+                neededVariables |= 1 << (sign - 'A');
                 return addStep(VARIABLE + (sign - 'A'));
             }
             int value = line.digits();
             return value >= 0 && addStep(value);
         }
 
-        /** Always true: each step is at least one character, so that there is room for it. */
+        /** Always true: each step is at least one character of the line, so that there is room for it. */
         private boolean addStep(int step) {
             if (stepCount >= LINE_ROOM) {
                 return false;
@@ -894,7 +898,7 @@ public final class GrantChain {
             return NONE;
         }
 
-        /** Goes through all bindings of a clause's body: has one held, missed (not held), failed? */
+        /** Goes through all bindings of a clause's body: afterwards, has one held, missed (not held) or failed? */
         private void search(Clause clause, int place) {
             int own = 1 << place;
             trusted = 1 | 1 << DESK_PLACE | own | (clause.trustsBefore ? own - 1 : 0);
@@ -911,7 +915,8 @@ public final class GrantChain {
                 return;
             }
             Atom atom = clause.body.get(depth);
-            for (int k = 0; k < known; k++) {
+            // Once there are too many facts, LIMIT is certain, and what else the round gives does not matter.
+            for (int k = 0; k < known && !facts.overfull; k++) {
                 int[] row = facts.rows[k];
                 int now = fit(atom, row, bound);
                 if (now != UNFIT) {

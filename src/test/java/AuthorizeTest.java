@@ -27,6 +27,7 @@ public final class AuthorizeTest {
         orderOfFacts();
         wrongQuestions();
         latestStays();
+        latestDoesNotLast();
         Bench.close();
     }
 
@@ -303,6 +304,8 @@ public final class AuthorizeTest {
         sum("A*10+9", 9999, 0, 99999);
         sum("A*10-9", -9999, 0, -99999);
         sum("A*B+9", 9999, 10, 99999);
+        sum("A*B+8", 9999, 10, 99998);
+        sum("A*B-8", -9999, 10, -99998);
         sumFails("A*10+10", 9999, 0);
         sumFails("A*10-10", -9999, 0);
         sumFails("A*B", 9999, 9999);
@@ -393,6 +396,8 @@ public final class AuthorizeTest {
         latest("of derived facts", with(facts, "?r(3)", "r(A)=q(A)", "+r(3)"), 0, 4, 2, 0);
         latest("a block's", with(block("p", "?q"), "q", "+p"), 0, 2, 1, 0);
         latest("a block's", with(block("p", "?r"), "q", "+p"), CHECKS, 2, 1, 1);
+        latest("! behind one that misses", with(facts, "?p(A),A>1", "!p(A),A>0", "+p(1)"), 0, 3, 1, 0);
+        latest("? behind one that holds", with(facts, "?p(A)", "?r(A)", "!r(A)", "+p(1)"), CHECKS, 3, 1, 6);
     }
 
     private static void numbersOfChecks() {
@@ -469,5 +474,25 @@ public final class AuthorizeTest {
         Bench.due("latest(2)", b.chain.latest(2), 0);
         Bench.due("latest(3)", b.chain.latest(3), 0);
         Bench.same("no facts", b.facts(), "");
+    }
+
+    private static void latestDoesNotLast() {
+        Bench b = with(block("p(0)"), "q=p(A),1/A=1", "+p(0)");
+        latest("a rule that fails", b, ERRORS, 1, 1, 0);
+        b.onDesk("+p(0)");
+        latest("and then none", b, 0, 1, 1, 0);
+        b.onDesk("+p(A),1/A=1");
+        latest("a policy that fails", b, ERRORS, 1, 1, 0);
+        b.onDesk("q=p(A),A>0", "!p(A),A=0", "-p(1)", "+p(0)");
+        latest("and then none", b, 1, 1, 1, 0);
+        b.onDesk("?p(1)");
+        latest("an unfulfilled check", b, CHECKS, 1, 1, 1);
+        b.onDesk("?p(0)", "-p(0)");
+        latest("and then none", b, DENY, 1, 1, 0);
+        b.chain.limits(1, 1);
+        b.onDesk("p(1)");
+        latest("too many facts", b, LIMIT, 0, 0, 0);
+        b.onDesk("+p(0)");
+        latest("and then not", b, 0, 1, 1, 0);
     }
 }

@@ -17,7 +17,8 @@ public final class ClauseTest {
         "", "*", ",", "P", "A", "1", "p,", ",p", "p q", "pq", "p(", "p()", "p)", "p(1", "p(1,", "p(1,)", "p(,1)",
         "p(1,2", "p(1,2,3)", "p(a)", "p(I)", "p(AB)", "p(A B)", "p(12345)", "p(1 2)", "p(- 2)", "p(--2)", "p(+2)",
         "p(-A)", "p(-)", "p((1))", "p(1+1)", "p,q,r,s", "p,1<2,1<2,1<2", "p,1<2,q", "1<2", "A<1", "p,A<1",
-        "p(A),B<1", "p(A),1<B", "p(A),1", "p(A),A", "p(A),A<", "p(A),<A", "p(A),A<1<2", "p(A),A<=1", "p(A),A==1",
+        "p(A),B<1", "p(A),1<B", "p(A),B<A", "p(A),A<B", "p(A),B<1,A<1",
+        "p,1<2,1<2,", "p,q,r,", "p(A),1", "p(A),A", "p(A),A<", "p(A),<A", "p(A),A<1<2", "p(A),A<=1", "p(A),A==1",
         "p(A),A!1", "p(A),-1<A", "p(A),A<-1", "p(A),A<1-", "p(A),A<1+", "p(A),A<+1", "p(A),A<1/", "p(A),A</1",
         "p(A),A<*1", "p(A),A<1**", "p**", "p*q", "p(A)*,A<1", "p(A),A*<1", "p(A),A<(1*)", "p(A),A<(1*", "p(A),A<(1",
         "p(A),A<1)", "p(A),A<()", "p(A),A<(((((1)))))", "p(A),(((((A)))))<1", "p(A),A<12345", "p(A),A<1 2",
@@ -35,6 +36,7 @@ public final class ClauseTest {
     public static void main(String[] args) {
         whatIsAClause();
         whatIsNone();
+        oneAfterTheOther();
         takingAClause();
         theOrderOfRefusals();
         theDesk();
@@ -85,6 +87,22 @@ public final class ClauseTest {
         Bench.due("line after it", b.chain.count(5), text.length());
         Bench.due("count(3) after it", b.chain.count(3), 0);
         Bench.due("count(4) after it", b.chain.count(4), 0);
+    }
+
+    private static void oneAfterTheOther() {
+        Bench b = new Bench();
+        Bench.due("with a variable", b.desk("q(A)=p(A),A<2"), 1);
+        Bench.due("without it in the body", b.desk("q(A)=p"), Bench.ARGUMENT);
+        Bench.due("without it in the body", b.desk("?p,A<2"), Bench.ARGUMENT);
+        Bench.due("with another one", b.desk("q(B)=p(B),B<2"), 1);
+        Bench.due("with none", b.desk("q=p"), 1);
+        Bench.due("a fact", b.desk("p(1)"), 0);
+        Bench.due("with a variable", b.desk("p(A)"), Bench.ARGUMENT);
+        b.issue(1);
+        Bench.due("without comparisons of others", b.desk("+q"), 4);
+        Bench.due("authorize", b.authorize(0, 1), -6);
+        Bench.due("a fact", b.desk("p"), 0);
+        Bench.due("authorize", b.authorize(0, 1), 0);
     }
 
     private static void takingAClause() {

@@ -158,6 +158,8 @@ public final class TokenTest {
             Bench.due("links with themselves", b.authorize(b.tamper(2, 2, k, k), 2), -6);
         }
         Bench.due("the last block is the latest", b.authorize(b.tamper(2, 3, 2, 0), 2), -6);
+        int sealed = b.seal(2);
+        Bench.due("a sealed one's link with itself", b.authorize(b.tamper(sealed, 2, 1, 1), 2), -6);
         int swapped = b.tamper(2, 1, 0, 2);
         Bench.due("blocks swapped", b.authorize(swapped, 2), -1);
         Bench.due("and swapped back", b.authorize(b.tamper(swapped, 1, 2, 0), 2), -6);
@@ -254,6 +256,7 @@ public final class TokenTest {
         for (int token : new int[] {Integer.MIN_VALUE, -1, 4, Integer.MAX_VALUE}) {
             Bench.due("token(" + token + ", 0)", b.token(token, 0), Bench.INDEX);
         }
+        Bench.due("open: token(2, 1)", b.token(2, 1), 0);
         b.append(2);
         Bench.due("four links: token(4, 13)", b.token(4, 13), 4);
         Bench.due("four links: token(4, 23)", b.token(4, 23), 7);
