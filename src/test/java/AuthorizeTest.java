@@ -151,11 +151,13 @@ public final class AuthorizeTest {
         b.block("z(A)=u(A)", "y=u(8),u(9)*").append(2);
         b.onDesk("u(6)", "x(A,B)=u(A),u(B),A>B,B>6*");
         Bench.due("authorize", b.authorize(3, 2), NONE);
-        Bench.same("facts of four blocks", b.facts(), "u(6)@16 u(7)@1 u(8)@2 u(9)@4 v(6)@17 v(6)@18 v(7)@1 v(7)@3 v(8)@2 "
+        Bench.same("facts of four blocks", b.facts(),
+            "u(6)@16 u(7)@1 u(8)@2 u(9)@4 v(6)@17 v(6)@18 v(7)@1 v(7)@3 v(8)@2 "
             + "w(6)@20 w(7)@5 w(8)@6 w(9)@4 x(8,7)@19 x(9,7)@21 x(9,8)@22 y@14 z(6)@24 z(7)@9");
         Bench.due("rounds", b.chain.latest(2), 2);
         Bench.due("authorize a shorter one", b.authorize(1, 2), NONE);
-        Bench.same("facts of two blocks", b.facts(), "u(6)@16 u(7)@1 u(8)@2 v(6)@17 v(6)@18 v(7)@1 v(7)@3 v(8)@2 x(8,7)@19");
+        Bench.same("facts of two blocks", b.facts(),
+            "u(6)@16 u(7)@1 u(8)@2 v(6)@17 v(6)@18 v(7)@1 v(7)@3 v(8)@2 x(8,7)@19");
 
         Bench same = new Bench();
         same.block("p(1)", "p(1)").issue(1);
@@ -168,7 +170,7 @@ public final class AuthorizeTest {
         Bench.same("its own place joins the origin", same.facts(), "p(1)@1 p(1)@2 p(1)@16 p(1)@17");
     }
 
-    /** A token of four blocks, each with f(its place), and c in one block or at the desk: what it derives. */
+    /** What a rule gives in a block or at the desk, where a token of four blocks, and the desk, have f(place) each. */
     private static String derived(int place, String clause) {
         Bench b = new Bench();
         for (int i = 0; i < 4; i++) {
@@ -184,7 +186,6 @@ public final class AuthorizeTest {
         }
         b.onDesk("f(4)");
         if (place == 4) {
-            b.block();
             b.desk(clause);
         }
         b.authorize(3, 3);
@@ -236,7 +237,8 @@ public final class AuthorizeTest {
         same.authorize(0, 1);
         Bench.same("one value for each variable", same.facts(),
             "p@1 p(1)@1 p(1,2)@1 p(2,2)@1 q(2)@1 r(2)@17 s(1,2)@17 s(2,2)@17 t(2)@17 u(2,1)@17 u(2,2)@17");
-        Bench fixed = with(block("p(1,2)", "p(3,2)", "p(2,5)"), "q(A)=p(A,2)", "r(A,7)=p(2,A)", "s(-1,A)=p(A,B),p(B,5)");
+        Bench fixed = with(block("p(1,2)", "p(3,2)", "p(2,5)"),
+            "q(A)=p(A,2)", "r(A,7)=p(2,A)", "s(-1,A)=p(A,B),p(B,5)");
         fixed.authorize(0, 1);
         Bench.same("numbers in atoms", fixed.facts(),
             "p(1,2)@1 p(2,5)@1 p(3,2)@1 q(1)@17 q(3)@17 r(5,7)@17 s(-1,1)@17 s(-1,3)@17");
@@ -432,7 +434,8 @@ public final class AuthorizeTest {
         b.block("a(9,9)", "b", "b(-5)", "c(0)", "b(-9,99)").append(0);
         b.onDesk("b(2,1)", "a(-1)", "a(3)", "b(2)", "z");
         b.authorize(1, 1);
-        Bench.same("in their order", b.facts(), "a(-1)@16 a(3)@16 a(9,9)@2 b@2 b(-5)@1 b(-5)@2 b(2)@16 b(7)@1 b(-9,99)@2 "
+        Bench.same("in their order", b.facts(),
+            "a(-1)@16 a(3)@16 a(9,9)@2 b@2 b(-5)@1 b(-5)@2 b(2)@16 b(7)@1 b(-9,99)@2 "
             + "b(2,-3)@1 b(2,1)@1 b(2,1)@16 c(0)@2 z@1 z@16");
         int[][] rows = {{0, 1, -1, 0, 16}, {0, 1, 3, 0, 16}, {0, 2, 9, 9, 2}, {1, 0, 0, 0, 2}, {1, 1, -5, 0, 1}};
         for (int k = 0; k < rows.length; k++) {

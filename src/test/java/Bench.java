@@ -52,7 +52,9 @@ final class Bench {
         try {
             return call.answer();
         } catch (RuntimeException e) {
-            Class<?> kind = e.getClass();
+            // An exception of the library's own is one that the program did not throw by a statement of its own.
+            boolean own = e.getStackTrace().length > 0 && e.getStackTrace()[0].getClassName().startsWith("GrantChain");
+            Class<?> kind = own ? e.getClass() : null;
             return kind == IllegalArgumentException.class ? ARGUMENT
                 : kind == UnsupportedOperationException.class ? UNSUPPORTED
                 : kind == IllegalStateException.class ? STATE
@@ -138,7 +140,7 @@ final class Bench {
         for (int k = 0; k < chain.latest(1); k++) {
             text.append(k == 0 ? "" : " ").append((char) ('a' + fact(k, 0)));
             int size = fact(k, 1);
-            text.append(size == 0 ? "" : size == 1 ? "(" + fact(k, 2) + ")" : "(" + fact(k, 2) + "," + fact(k, 3) + ")");
+            text.append(size == 0 ? "" : "(" + fact(k, 2) + (size == 1 ? "" : "," + fact(k, 3)) + ")");
             text.append('@').append(fact(k, 4));
         }
         return text.toString();

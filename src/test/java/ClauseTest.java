@@ -11,7 +11,8 @@ public final class ClauseTest {
     private static final String[] BODIES = {
         "p", "p(A)", "p(A,B)", "p,q,r", "p,q,r,1<2,2<3", "p,1<2", "p,1=1", "p,1#1", "p,1>1", "p(A),A+1<A*2-3/A", "p*",
         "p(A),A<1*", "p(A),A<1*2*", "p(A),A<1*2", "p(A),(A)<1*", "p(A),((((A))))<1", "p(A),((((1))))=((((A))))",
-        "p(A),(1)+(1)+(1)+(1)+(1)+(1)<A", "p(A),9999<A", "p(A),0000<A", " p ( A , B ) , A < ( B ) ", "p(A),A-1<1-A", "p(H),H<H", "p(A),A/0<1",
+        "p(A),(1)+(1)+(1)+(1)+(1)+(1)<A", "p(A),9999<A", "p(A),0000<A",
+        " p ( A , B ) , A < ( B ) ", "p(A),A-1<1-A", "p(H),H<H", "p(A),A/0<1",
     };
     private static final String[] NOT_BODIES = {
         "", "*", ",", "P", "A", "1", "p,", ",p", "p q", "pq", "p(", "p()", "p)", "p(1", "p(1,", "p(1,)", "p(,1)",

@@ -58,7 +58,8 @@ public final class FaceTest {
     }
 
     private static String shown(Method m) {
-        StringBuilder text = new StringBuilder(m.getReturnType().getSimpleName()).append(' ').append(m.getName()).append('(');
+        StringBuilder text = new StringBuilder(m.getReturnType().getSimpleName());
+        text.append(' ').append(m.getName()).append('(');
         for (int i = 0; i < m.getParameterCount(); i++) {
             text.append(i == 0 ? "" : ",").append(m.getParameterTypes()[i].getSimpleName());
         }

@@ -254,8 +254,10 @@ final class Model {
         List<Parsed> clauses = new ArrayList<>();
         List<Integer> places = new ArrayList<>();
         for (int place = 0; place < 5; place++) {
-            boolean block = place < chain.links.size();
-            List<Parsed> here = place == 4 ? desk : block ? blocks.get(chain.links.get(place)[0] - 1) : new ArrayList<>();
+            List<Parsed> here = place == 4 ? desk : new ArrayList<>();
+            if (place < chain.links.size()) {
+                here = blocks.get(chain.links.get(place)[0] - 1);
+            }
             for (Parsed p : here) {
                 clauses.add(p);
                 places.add(place);
