@@ -270,6 +270,10 @@ public final class GrantChain {
         return how > WITHOUT_LAST && how <= SIGN_ANEW && a >= 0 && a < links && (!usesB || b >= 0 && b < links);
     }
 
+    private static boolean isComparison(int sign) {
+        return sign == '<' || sign == '>' || sign == '=' || sign == '#';
+    }
+
     private int moveLine(Clause read, Block into) {
         into.clauses.add(read);
         line.length = 0;
@@ -603,10 +607,6 @@ public final class GrantChain {
         private static boolean isVariable(char c) {
             return c >= 'A' && c < 'A' + VARIABLES;
         }
-    }
-
-    private static boolean isComparison(int sign) {
-        return sign == '<' || sign == '>' || sign == '=' || sign == '#';
     }
 
     /** A block and the key handed on; and the signature: whose, and of which block and key. Never changed. */
