@@ -752,7 +752,7 @@ public final class GrantChain {
         private static int order(int[] one, int[] other) {
             for (int i = 0; i < COLUMNS; i++) {
                 if (one[i] != other[i]) {
-                    return Integer.compare(one[i], other[i]);
+                    return one[i] < other[i] ? -1 : 1;
                 }
             }
             return 0;

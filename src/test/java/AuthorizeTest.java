@@ -44,10 +44,10 @@ public final class AuthorizeTest {
 
     private static void latest(String what, Bench b, int result, int facts, int rounds, int unfulfilled) {
         Bench.due(what, b.authorize(0, 1), result);
-        Bench.due(what + ": latest(0)", b.chain.latest(0), result);
-        Bench.due(what + ": latest(1)", b.chain.latest(1), facts);
-        Bench.due(what + ": latest(2)", b.chain.latest(2), rounds);
-        Bench.due(what + ": latest(3)", b.chain.latest(3), unfulfilled);
+        Bench.due(what + ": latest(0)", b.latest(0), result);
+        Bench.due(what + ": latest(1)", b.latest(1), facts);
+        Bench.due(what + ": latest(2)", b.latest(2), rounds);
+        Bench.due(what + ": latest(3)", b.latest(3), unfulfilled);
         Bench.due(what + ": no fact behind the last", b.fact(facts, 0), Bench.INDEX);
     }
 
@@ -56,34 +56,34 @@ public final class AuthorizeTest {
         int[][] wrong = {{0, 1}, {31, 1}, {1, 0}, {1, 13}, {-1, 5}, {5, -1}, {0, 0}, {31, 13},
             {Integer.MIN_VALUE, 1}, {Integer.MAX_VALUE, 1}, {1, Integer.MIN_VALUE}, {1, Integer.MAX_VALUE}};
         for (int[] w : wrong) {
-            Bench.due("limits(" + w[0] + ", " + w[1] + ")", b.chain.limits(w[0], w[1]) ? 1 : 0, 0);
+            Bench.due("limits(" + w[0] + ", " + w[1] + ")", b.limits(w[0], w[1]), 0);
             latest("refused limits", b, NONE, 4, 2, 0);
         }
         for (int[] r : new int[][] {{1, 1}, {30, 12}, {1, 12}, {30, 1}, {4, 2}}) {
-            Bench.due("limits(" + r[0] + ", " + r[1] + ")", b.chain.limits(r[0], r[1]) ? 1 : 0, 1);
+            Bench.due("limits(" + r[0] + ", " + r[1] + ")", b.limits(r[0], r[1]), 1);
         }
         latest("just enough", b, NONE, 4, 2, 0);
-        Bench.due("refused", b.chain.limits(30, 13) ? 1 : 0, 0);
-        Bench.due("refused", b.chain.limits(3, 0) ? 1 : 0, 0);
+        Bench.due("refused", b.limits(30, 13), 0);
+        Bench.due("refused", b.limits(3, 0), 0);
         latest("still just enough", b, NONE, 4, 2, 0);
     }
 
     private static void tooManyFacts() {
         Bench b = with(block("p(1)", "p(2)", "q(A)=p(A)"), "r=q(2)");
-        b.chain.limits(5, 12);
+        b.limits(5, 12);
         latest("five facts of five", b, NONE, 5, 3, 0);
-        b.chain.limits(4, 12);
+        b.limits(4, 12);
         latest("too many after round 2", b, LIMIT, 0, 2, 0);
-        b.chain.limits(3, 12);
+        b.limits(3, 12);
         latest("too many after round 1", b, LIMIT, 0, 1, 0);
-        b.chain.limits(2, 12);
+        b.limits(2, 12);
         latest("two at the beginning", b, LIMIT, 0, 1, 0);
-        b.chain.limits(1, 12);
+        b.limits(1, 12);
         latest("too many at the beginning", b, LIMIT, 0, 0, 0);
-        b.chain.limits(4, 2);
+        b.limits(4, 2);
         latest("MOST is looked at first, and MORE", b, LIMIT, 0, 2, 0);
         Bench twice = with(block("p(1)", "p(1)", "p(1)"), "p(1)", "p(1)");
-        twice.chain.limits(2, 1);
+        twice.limits(2, 1);
         latest("the same fact counts once", twice, NONE, 2, 1, 0);
         Bench many = with(block("p(1)", "p(2)", "p(3)", "p(4)"), "p(5)", "p(6)", "q(A,B)=p(A),p(B)", "+p(1)");
         latest("42 facts", many, LIMIT, 0, 1, 0);
@@ -93,18 +93,18 @@ public final class AuthorizeTest {
         Bench b = with(block("p(1)", "q(A)=p(A)", "r(A)=q(A)", "s(A)=r(A)"), "+p(1)");
         int[] results = {LIMIT, LIMIT, LIMIT, 0, 0};
         for (int more = 1; more <= 5; more++) {
-            b.chain.limits(30, more);
+            b.limits(30, more);
             int result = results[more - 1];
             latest("MORE is " + more, b, result, result == 0 ? 4 : 0, Math.min(more, 4), 0);
         }
         Bench still = with(block("p(1)"));
-        still.chain.limits(30, 1);
+        still.limits(30, 1);
         latest("one round is enough for nothing new", still, NONE, 1, 1, 0);
         Bench twelve = with(block("n(1)", "s(1,2)", "s(2,3)", "s(3,4)", "s(4,5)"),
             "s(5,6)", "s(6,7)", "s(7,8)", "s(8,9)", "s(9,10)", "s(10,11)", "s(11,12)", "n(B)=n(A),s(A,B)");
-        twelve.chain.limits(30, 12);
+        twelve.limits(30, 12);
         latest("twelve rounds", twelve, NONE, 24 - 1, 12, 0);
-        twelve.chain.limits(30, 11);
+        twelve.limits(30, 11);
         latest("eleven rounds", twelve, LIMIT, 0, 11, 0);
     }
 
@@ -119,15 +119,15 @@ public final class AuthorizeTest {
             Bench.due("authorize(0, " + root + ")", b.authorize(0, root), Bench.ARGUMENT);
         }
         Bench.same("the latest stays", b.facts(), "p@1");
-        Bench.due("the latest stays", b.chain.latest(2), 1);
+        Bench.due("the latest stays", b.latest(2), 1);
         Bench.due("BAD", b.authorize(0, 2), BAD);
         int[] answers = {BAD, 0, 0, 0, 0};
         for (int what = 0; what < answers.length; what++) {
-            Bench.due("BAD: latest(" + what + ")", b.chain.latest(what), answers[what]);
+            Bench.due("BAD: latest(" + what + ")", b.latest(what), answers[what]);
         }
         Bench.due("BAD: fact(0, 0)", b.fact(0, 0), Bench.INDEX);
         Bench.due("refused after BAD", b.authorize(0, 4), Bench.ARGUMENT);
-        Bench.due("BAD stays", b.chain.latest(0), BAD);
+        Bench.due("BAD stays", b.latest(0), BAD);
         latest("and right again", b, 0, 1, 1, 0);
     }
 
@@ -154,7 +154,7 @@ public final class AuthorizeTest {
         Bench.same("facts of four blocks", b.facts(),
             "u(6)@16 u(7)@1 u(8)@2 u(9)@4 v(6)@17 v(6)@18 v(7)@1 v(7)@3 v(8)@2 "
             + "w(6)@20 w(7)@5 w(8)@6 w(9)@4 x(8,7)@19 x(9,7)@21 x(9,8)@22 y@14 z(6)@24 z(7)@9");
-        Bench.due("rounds", b.chain.latest(2), 2);
+        Bench.due("rounds", b.latest(2), 2);
         Bench.due("authorize a shorter one", b.authorize(1, 2), NONE);
         Bench.same("facts of two blocks", b.facts(),
             "u(6)@16 u(7)@1 u(8)@2 v(6)@17 v(6)@18 v(7)@1 v(7)@3 v(8)@2 x(8,7)@19");
@@ -210,8 +210,8 @@ public final class AuthorizeTest {
         b.block("?p(2)", "?p(2)*", "!p(A),A=1", "!p(A),A=1*").append(1);
         b.onDesk("-p(2)", "+p(2)*");
         b.authorize(2, 1);
-        Bench.due("what checks trust", b.chain.latest(0), CHECKS);
-        Bench.due("what checks trust", b.chain.latest(3), 1 + 16 + 128);
+        Bench.due("what checks trust", b.latest(0), CHECKS);
+        Bench.due("what checks trust", b.latest(3), 1 + 16 + 128);
         Bench policy = new Bench();
         policy.block("p(1)").issue(1);
         policy.block("p(2)", "q(A)=p(A)").append(0);
@@ -348,7 +348,7 @@ public final class AuthorizeTest {
         latest("behind a true one", with(block("p(0)", "q=p(A),A=0,4/A>0"), "+p(0)"), ERRORS, 1, 1, 0);
         latest("LIMIT comes first", with(block("p(0)", "q=p(A),4/A>0", "r=p(0)", "s=r"), "+p(0)"), ERRORS, 3, 3, 0);
         Bench limit = with(block("p(0)", "q=p(A),4/A>0", "r=p(0)", "s=r"), "+p(0)");
-        limit.chain.limits(30, 2);
+        limit.limits(30, 2);
         latest("LIMIT comes first", limit, LIMIT, 0, 2, 0);
         latest("a fact that comes late", with(block("p", "q=p", "n(0)=q", "r=n(A),1/A=1"), "+p"), ERRORS, 3, 3, 0);
         latest("a desk's rule", with(block("p(0)"), "q=p(A),4/A>0", "+p(0)"), ERRORS, 1, 1, 0);
@@ -408,9 +408,9 @@ public final class AuthorizeTest {
         b.block("!x", "!p", "?p").append(0);
         b.onDesk("?x", "+p", "?p", "q=p", "!x");
         Bench.due("authorize", b.authorize(1, 1), CHECKS);
-        Bench.due("the checks", b.chain.latest(3), 1 + 4 + 16 + 128 + 512);
+        Bench.due("the checks", b.latest(3), 1 + 4 + 16 + 128 + 512);
         Bench.due("authorize", b.authorize(0, 1), CHECKS);
-        Bench.due("the checks of fewer blocks", b.chain.latest(3), 1 + 4 + 16 + 64);
+        Bench.due("the checks of fewer blocks", b.latest(3), 1 + 4 + 16 + 64);
         Bench all = new Bench();
         for (int i = 0; i < 4; i++) {
             all.block("?x", "?x", "!x", "?x", "?x");
@@ -422,10 +422,10 @@ public final class AuthorizeTest {
         }
         all.onDesk("?x", "?x", "?x", "?x", "?x", "?x", "?x", "?x", "?x", "?x");
         Bench.due("thirty checks", all.authorize(3, 1), CHECKS);
-        Bench.due("thirty checks", all.chain.latest(3), (1 << 30) - 1);
+        Bench.due("thirty checks", all.latest(3), (1 << 30) - 1);
         all.onDesk("x", "?x");
         Bench.due("thirty checks fulfilled", all.authorize(3, 1), NONE);
-        Bench.due("thirty checks fulfilled", all.chain.latest(3), 0);
+        Bench.due("thirty checks fulfilled", all.latest(3), 0);
     }
 
     private static void orderOfFacts() {
@@ -456,7 +456,7 @@ public final class AuthorizeTest {
             Bench.due("fact(0, " + what + ")", b.fact(0, what), Bench.INDEX);
         }
         for (int what : new int[] {Integer.MIN_VALUE, -1, 4, 5, Integer.MAX_VALUE}) {
-            Bench.due("latest(" + what + ")", b.chain.latest(what), 0);
+            Bench.due("latest(" + what + ")", b.latest(what), 0);
         }
     }
 
@@ -466,16 +466,16 @@ public final class AuthorizeTest {
         b.block("q");
         b.append(0);
         b.desk("r");
-        b.chain.limits(1, 1);
+        b.limits(1, 1);
         b.seal(0);
         b.tamper(1, 0, 0, 0);
-        Bench.due("latest(0)", b.chain.latest(0), CHECKS);
-        Bench.due("latest(3)", b.chain.latest(3), 1);
+        Bench.due("latest(0)", b.latest(0), CHECKS);
+        Bench.due("latest(3)", b.latest(3), 1);
         Bench.same("its facts", b.facts(), "p(1)@1");
         Bench.due("LIMIT", b.authorize(0, 1), LIMIT);
-        Bench.due("latest(1)", b.chain.latest(1), 0);
-        Bench.due("latest(2)", b.chain.latest(2), 0);
-        Bench.due("latest(3)", b.chain.latest(3), 0);
+        Bench.due("latest(1)", b.latest(1), 0);
+        Bench.due("latest(2)", b.latest(2), 0);
+        Bench.due("latest(3)", b.latest(3), 0);
         Bench.same("no facts", b.facts(), "");
     }
 
@@ -492,7 +492,7 @@ public final class AuthorizeTest {
         latest("an unfulfilled check", b, CHECKS, 1, 1, 1);
         b.onDesk("?p(0)", "-p(0)");
         latest("and then none", b, DENY, 1, 1, 0);
-        b.chain.limits(1, 1);
+        b.limits(1, 1);
         b.onDesk("p(1)");
         latest("too many facts", b, LIMIT, 0, 0, 0);
         b.onDesk("+p(0)");

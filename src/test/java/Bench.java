@@ -10,7 +10,11 @@ final class Bench {
     private static int asked = 0;
     private static int wrong = 0;
 
-    final GrantChain chain = new GrantChain();
+    /** What later calls of one object answer is free. */
+    private static final int CALLS = 512;
+
+    private final GrantChain chain = new GrantChain();
+    private int calls = 0;
 
     interface Call {
         int answer();
@@ -48,7 +52,11 @@ final class Bench {
         return answer == OTHER ? "throws something else" : Long.toString(answer);
     }
 
-    static int answer(Call call) {
+    private int answer(Call call) {
+        calls++;
+        if (calls > CALLS) {
+            due("a test's calls of one object", calls, CALLS);
+        }
         try {
             return call.answer();
         } catch (RuntimeException e) {
@@ -62,27 +70,58 @@ final class Bench {
         }
     }
 
+    /** How many calls there may still be. */
+    int callsLeft() {
+        return CALLS - calls;
+    }
+
+    int type(char c) {
+        return answer(() -> chain.type(c) ? 1 : 0);
+    }
+
     /** Types a text; answers how many of its characters were taken. */
     int type(String text) {
         int taken = 0;
         for (char c : text.toCharArray()) {
-            taken += chain.type(c) ? 1 : 0;
+            taken += type(c);
         }
         return taken;
     }
 
+    void wipe() {
+        answer(() -> {
+            chain.wipe();
+            return 0;
+        });
+    }
+
+    int clause() {
+        return answer(chain::clause);
+    }
+
     /** The line becomes the text, and then a clause of the block. */
     int clause(String text) {
-        chain.wipe();
+        wipe();
         type(text);
-        return answer(chain::clause);
+        return clause();
+    }
+
+    int desk() {
+        return answer(chain::desk);
     }
 
     /** The line becomes the text, and then a clause of the desk. */
     int desk(String text) {
-        chain.wipe();
+        wipe();
         type(text);
-        return answer(chain::desk);
+        return desk();
+    }
+
+    void clear() {
+        answer(() -> {
+            chain.clear();
+            return 0;
+        });
     }
 
     /** Puts clauses into the block that is being made, all of which are right. */
@@ -97,7 +136,7 @@ final class Bench {
 
     /** The desk has just these clauses then, all of which are right. */
     Bench onDesk(String... texts) {
-        chain.clear();
+        clear();
         for (String text : texts) {
             if (desk(text) < 0) {
                 due("desk " + text, -1, 0);
@@ -122,8 +161,16 @@ final class Bench {
         return answer(() -> chain.tamper(token, how, a, b));
     }
 
+    int limits(int most, int more) {
+        return answer(() -> chain.limits(most, more) ? 1 : 0);
+    }
+
     int authorize(int token, int root) {
         return answer(() -> chain.authorize(token, root));
+    }
+
+    int latest(int what) {
+        return answer(() -> chain.latest(what));
     }
 
     int fact(int k, int what) {
@@ -134,10 +181,15 @@ final class Bench {
         return answer(() -> chain.token(token, what));
     }
 
+    int count(int what) {
+        return answer(() -> chain.count(what));
+    }
+
     /** The facts of the latest authorize(), as "p(1,2)@3 q@16": behind the @ is the origin. */
     String facts() {
         StringBuilder text = new StringBuilder();
-        for (int k = 0; k < chain.latest(1); k++) {
+        int facts = latest(1);
+        for (int k = 0; k < facts; k++) {
             text.append(k == 0 ? "" : " ").append((char) ('a' + fact(k, 0)));
             int size = fact(k, 1);
             text.append(size == 0 ? "" : "(" + fact(k, 2) + (size == 1 ? "" : "," + fact(k, 3)) + ")");
@@ -149,7 +201,8 @@ final class Bench {
     /** A token as "block next signer | block next signer / open key". */
     String shown(int token) {
         StringBuilder text = new StringBuilder();
-        for (int k = 0; k < token(token, 0); k++) {
+        int links = token(token, 0);
+        for (int k = 0; k < links; k++) {
             text.append(k == 0 ? "" : " | ").append(token(token, 10 + k)).append(' ').append(token(token, 20 + k));
             text.append(' ').append(token(token, 30 + k));
         }

@@ -83,11 +83,11 @@ public final class ClauseTest {
     private static void refuses(String text) {
         Bench b = new Bench();
         Bench.due("clause of \"" + text + "\"", b.clause(text), Bench.ARGUMENT);
-        Bench.due("line after it", b.chain.count(5), text.length());
+        Bench.due("line after it", b.count(5), text.length());
         Bench.due("desk of \"" + text + "\"", b.desk(text), Bench.ARGUMENT);
-        Bench.due("line after it", b.chain.count(5), text.length());
-        Bench.due("count(3) after it", b.chain.count(3), 0);
-        Bench.due("count(4) after it", b.chain.count(4), 0);
+        Bench.due("line after it", b.count(5), text.length());
+        Bench.due("count(3) after it", b.count(3), 0);
+        Bench.due("count(4) after it", b.count(4), 0);
     }
 
     private static void oneAfterTheOther() {
@@ -112,27 +112,27 @@ public final class ClauseTest {
         int[] kinds = {0, 1, 2, 3, 0};
         for (int i = 0; i < texts.length; i++) {
             Bench.due("clause of " + texts[i], b.clause(texts[i]), kinds[i]);
-            Bench.due("the line then", b.chain.count(5), 0);
-            Bench.due("the block then", b.chain.count(3), i + 1);
+            Bench.due("the line then", b.count(5), 0);
+            Bench.due("the block then", b.count(3), i + 1);
         }
         Bench.due("a sixth clause", b.clause("s"), Bench.STATE);
-        Bench.due("the line stays", b.chain.count(5), 1);
-        Bench.due("the block stays", b.chain.count(3), 5);
-        Bench.due("the desk takes it", Bench.answer(b.chain::desk), 0);
+        Bench.due("the line stays", b.count(5), 1);
+        Bench.due("the block stays", b.count(3), 5);
+        Bench.due("the desk takes it", b.desk(), 0);
         b.issue(1);
         Bench.due("a new block", b.clause("s"), 0);
-        Bench.due("the new block has", b.chain.count(3), 1);
+        Bench.due("the new block has", b.count(3), 1);
     }
 
     private static void theOrderOfRefusals() {
         Bench b = new Bench().block("a", "b", "c", "d", "e");
         Bench.due("no clause, and five are there", b.clause("?"), Bench.ARGUMENT);
         Bench.due("ALLOW, and five are there", b.clause("+p"), Bench.UNSUPPORTED);
-        Bench.due("the line stays", b.chain.count(5), 2);
+        Bench.due("the line stays", b.count(5), 2);
         Bench.due("DENY, and five are there", b.clause("-p"), Bench.UNSUPPORTED);
         Bench.due("a FACT, and five are there", b.clause("p"), Bench.STATE);
         Bench.due("ALLOW that is none", b.clause("+p,"), Bench.ARGUMENT);
-        Bench.due("the block stays", b.chain.count(3), 5);
+        Bench.due("the block stays", b.count(3), 5);
     }
 
     private static void theDesk() {
@@ -141,14 +141,14 @@ public final class ClauseTest {
         int[] kinds = {0, 1, 2, 3, 4, 5, 0, 0, 0, 0};
         for (int i = 0; i < texts.length; i++) {
             Bench.due("desk of " + texts[i], b.desk(texts[i]), kinds[i]);
-            Bench.due("the line then", b.chain.count(5), 0);
-            Bench.due("the desk then", b.chain.count(4), i + 1);
+            Bench.due("the line then", b.count(5), 0);
+            Bench.due("the desk then", b.count(4), i + 1);
         }
         Bench.due("no clause, and ten are there", b.desk("p("), Bench.ARGUMENT);
         Bench.due("an eleventh clause", b.desk("+p"), Bench.STATE);
-        Bench.due("the line stays", b.chain.count(5), 2);
-        Bench.due("the desk stays", b.chain.count(4), 10);
-        Bench.due("the block stays", b.chain.count(3), 0);
+        Bench.due("the line stays", b.count(5), 2);
+        Bench.due("the desk stays", b.count(4), 10);
+        Bench.due("the block stays", b.count(3), 0);
     }
 
     private static void clearing() {
@@ -157,15 +157,15 @@ public final class ClauseTest {
         b.block("b").onDesk("p", "+p");
         b.type("xy");
         Bench.due("before clear()", b.authorize(0, 1), 0);
-        b.chain.clear();
-        Bench.due("the desk is empty", b.chain.count(4), 0);
-        Bench.due("the line stays", b.chain.count(5), 2);
-        Bench.due("the block stays", b.chain.count(3), 1);
+        b.clear();
+        Bench.due("the desk is empty", b.count(4), 0);
+        Bench.due("the line stays", b.count(5), 2);
+        Bench.due("the block stays", b.count(3), 1);
         Bench.same("the latest facts stay", b.facts(), "a(1)@1 a(2)@1 p@16");
-        Bench.due("the latest result stays", b.chain.latest(0), 0);
+        Bench.due("the latest result stays", b.latest(0), 0);
         Bench.due("after clear()", b.authorize(0, 1), -6);
         Bench.same("facts without the desk", b.facts(), "a(1)@1 a(2)@1");
-        b.chain.clear();
+        b.clear();
         for (int i = 0; i < 10; i++) {
             Bench.due("ten clauses again", b.desk("-a(2)"), 5);
         }

@@ -13,15 +13,15 @@ public final class LineTest {
         Bench b = new Bench();
         int[] counts = {0, 0, 3, 0, 0, 0};
         for (int what = 0; what < counts.length; what++) {
-            Bench.due("new: count(" + what + ")", b.chain.count(what), counts[what]);
+            Bench.due("new: count(" + what + ")", b.count(what), counts[what]);
         }
         for (int what = -1; what < 6; what++) {
-            Bench.due("new: latest(" + what + ")", b.chain.latest(what), 0);
+            Bench.due("new: latest(" + what + ")", b.latest(what), 0);
         }
         Bench.due("new: fact(0, 0)", b.fact(0, 0), Bench.INDEX);
         Bench.due("new: token(0, 0)", b.token(0, 0), Bench.INDEX);
-        Bench.due("new: clause()", Bench.answer(b.chain::clause), Bench.ARGUMENT);
-        Bench.due("new: desk()", Bench.answer(b.chain::desk), Bench.ARGUMENT);
+        Bench.due("new: clause()", b.clause(), Bench.ARGUMENT);
+        Bench.due("new: desk()", b.desk(), Bench.ARGUMENT);
     }
 
     private static void limitsOfANewObject() {
@@ -30,7 +30,7 @@ public final class LineTest {
         // 6 facts and 4 times 6 pairs: 30.
         thirty.issue(1);
         Bench.due("30 facts", thirty.authorize(0, 1), -6);
-        Bench.due("30 facts: latest(1)", thirty.chain.latest(1), 30);
+        Bench.due("30 facts: latest(1)", thirty.latest(1), 30);
         thirty.desk("r");
         Bench.due("31 facts", thirty.authorize(0, 1), -2);
 
@@ -38,54 +38,54 @@ public final class LineTest {
         ten.issue(1);
         ten.onDesk("s(5,6)", "s(6,7)", "s(7,8)", "s(8,9)", "s(9,10)", "n(B)=n(A),s(A,B)*");
         Bench.due("10 rounds", ten.authorize(0, 1), -6);
-        Bench.due("10 rounds: latest(2)", ten.chain.latest(2), 10);
+        Bench.due("10 rounds: latest(2)", ten.latest(2), 10);
         ten.desk("s(10,11)");
         Bench.due("11 rounds", ten.authorize(0, 1), -2);
-        Bench.due("11 rounds: latest(2)", ten.chain.latest(2), 10);
+        Bench.due("11 rounds: latest(2)", ten.latest(2), 10);
     }
 
     private static void typing() {
         Bench b = new Bench();
         for (int c : new int[] {0, 9, 10, 31, 127, 128, 255, 256, 0x2070, 0xffff}) {
-            Bench.due("type(" + c + ")", b.chain.type((char) c) ? 1 : 0, 0);
+            Bench.due("type(" + c + ")", b.type((char) c), 0);
         }
-        Bench.due("refused: count(5)", b.chain.count(5), 0);
+        Bench.due("refused: count(5)", b.count(5), 0);
         for (int c = 32; c <= 71; c++) {
-            Bench.due("type(" + c + ")", b.chain.type((char) c) ? 1 : 0, 1);
-            Bench.due("typed: count(5)", b.chain.count(5), c - 31);
+            Bench.due("type(" + c + ")", b.type((char) c), 1);
+            Bench.due("typed: count(5)", b.count(5), c - 31);
         }
-        Bench.due("the 41st character", b.chain.type('a') ? 1 : 0, 0);
-        Bench.due("full: count(5)", b.chain.count(5), 40);
-        b.chain.wipe();
+        Bench.due("the 41st character", b.type('a'), 0);
+        Bench.due("full: count(5)", b.count(5), 40);
+        b.wipe();
         for (int c = 72; c <= 126; c++) {
-            b.chain.wipe();
-            Bench.due("type(" + c + ")", b.chain.type((char) c) ? 1 : 0, 1);
+            b.wipe();
+            Bench.due("type(" + c + ")", b.type((char) c), 1);
         }
         Bench parts = new Bench();
         parts.type("p(1");
-        Bench.due("half a clause", Bench.answer(parts.chain::clause), Bench.ARGUMENT);
-        Bench.due("half a clause stays", parts.chain.count(5), 3);
+        Bench.due("half a clause", parts.clause(), Bench.ARGUMENT);
+        Bench.due("half a clause stays", parts.count(5), 3);
         parts.type(")");
-        Bench.due("the clause's other half", Bench.answer(parts.chain::clause), 0);
+        Bench.due("the clause's other half", parts.clause(), 0);
         Bench.due("line of forty", parts.clause("p(1)                                    "), 0);
         Bench.due("41st is not there", parts.type("p(1)                                    q"), 40);
-        Bench.due("line of forty again", Bench.answer(parts.chain::clause), 0);
+        Bench.due("line of forty again", parts.clause(), 0);
     }
 
     private static void wiping() {
         Bench b = new Bench();
-        b.chain.wipe();
-        Bench.due("wipe of nothing", b.chain.count(5), 0);
+        b.wipe();
+        Bench.due("wipe of nothing", b.count(5), 0);
         b.type("?????");
-        b.chain.wipe();
-        Bench.due("wiped: count(5)", b.chain.count(5), 0);
-        Bench.due("wiped: clause()", Bench.answer(b.chain::clause), Bench.ARGUMENT);
+        b.wipe();
+        Bench.due("wiped: count(5)", b.count(5), 0);
+        Bench.due("wiped: clause()", b.clause(), Bench.ARGUMENT);
         b.type("p");
-        Bench.due("nothing of the old line", Bench.answer(b.chain::clause), 0);
+        Bench.due("nothing of the old line", b.clause(), 0);
         b.type("q(12345");
-        b.chain.wipe();
+        b.wipe();
         b.type("q(");
-        Bench.due("nothing behind the new line", Bench.answer(b.chain::clause), Bench.ARGUMENT);
+        Bench.due("nothing behind the new line", b.clause(), Bench.ARGUMENT);
     }
 
     private static void counting() {
@@ -93,7 +93,7 @@ public final class LineTest {
         b.type("abcd");
         int[] before = {0, 0, 3, 2, 3, 4};
         for (int what = 0; what < before.length; what++) {
-            Bench.due("count(" + what + ")", b.chain.count(what), before[what]);
+            Bench.due("count(" + what + ")", b.count(what), before[what]);
         }
         b.issue(2);
         b.append(0);
@@ -101,10 +101,10 @@ public final class LineTest {
         b.tamper(1, 4, 0, 0);
         int[] after = {4, 2, 6, 0, 3, 4};
         for (int what = 0; what < after.length; what++) {
-            Bench.due("count(" + what + ") then", b.chain.count(what), after[what]);
+            Bench.due("count(" + what + ") then", b.count(what), after[what]);
         }
         for (int what : new int[] {-1, 6, 7, 100, Integer.MIN_VALUE, Integer.MAX_VALUE}) {
-            Bench.due("count(" + what + ")", b.chain.count(what), -1);
+            Bench.due("count(" + what + ")", b.count(what), -1);
         }
     }
 }

@@ -54,7 +54,7 @@ public final class RandomTest {
     private void setLimits() {
         int most = random.nextInt(3) > 0 ? 30 : random.nextInt(33) - 1;
         int more = random.nextInt(3) > 0 ? 10 : random.nextInt(14);
-        check("limits(" + most + ", " + more + ")", bench.chain.limits(most, more) ? 1 : 0, model.limits(most, more));
+        check("limits(" + most + ", " + more + ")", bench.limits(most, more), model.limits(most, more));
     }
 
     private int below(int bound) {
@@ -70,16 +70,16 @@ public final class RandomTest {
             text = text.replaceAll("(?<![0-9-])(?=.)", " ");
         }
         for (char c : text.toCharArray()) {
-            check("type " + c, bench.chain.type(c) ? 1 : 0, model.type(c));
+            check("type " + c, bench.type(c), model.type(c));
         }
-        int got = Bench.answer(toDesk ? bench.chain::desk : bench.chain::clause);
+        int got = toDesk ? bench.desk() : bench.clause();
         check((toDesk ? "desk of " : "clause of ") + text, got, toDesk ? model.desk() : model.clause());
         if (got < 0) {
-            bench.chain.wipe();
+            bench.wipe();
             model.wipe();
         }
         if (toDesk && got == Bench.STATE) {
-            bench.chain.clear();
+            bench.clear();
             model.clear();
         }
     }
@@ -178,7 +178,7 @@ public final class RandomTest {
             results[got + 6]++;
         }
         for (int what = 0; what < 4; what++) {
-            check("latest(" + what + ")", bench.chain.latest(what), model.latest(what));
+            check("latest(" + what + ")", bench.latest(what), model.latest(what));
         }
         int k = below(model.latest(1) + 1);
         for (int what = 0; what < 5; what++) {
@@ -188,11 +188,11 @@ public final class RandomTest {
 
     private void ask() {
         int what = below(7);
-        check("count(" + what + ")", bench.chain.count(what), model.count(what));
+        check("count(" + what + ")", bench.count(what), model.count(what));
         int token = below(model.count(0));
         int part = random.nextInt(4) * 10 + below(4);
         check("token(" + token + ", " + part + ")", bench.token(token, part), model.token(token, part));
-        check("latest(" + part + ")", bench.chain.latest(part), model.latest(part));
+        check("latest(" + part + ")", bench.latest(part), model.latest(part));
         check("fact(" + token + ", " + what + ")", bench.fact(token, what), model.fact(token, what));
     }
 

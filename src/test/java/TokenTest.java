@@ -28,13 +28,13 @@ public final class TokenTest {
         for (int root : new int[] {Integer.MIN_VALUE, -1, 0, 4, 5, Integer.MAX_VALUE}) {
             Bench.due("issue(" + root + ")", b.issue(root), Bench.ARGUMENT);
         }
-        Bench.due("refused: keys", b.chain.count(2), 3);
-        Bench.due("refused: blocks", b.chain.count(1), 0);
+        Bench.due("refused: keys", b.count(2), 3);
+        Bench.due("refused: blocks", b.count(1), 0);
         b.block("a", "b");
         for (int root = 1; root <= 3; root++) {
             Bench.due("issue(" + root + ")", b.issue(root), root - 1);
             Bench.same("its token", b.shown(root - 1), root + " " + (root + 3) + " " + root + " / open " + (root + 3));
-            Bench.due("the block is new", b.chain.count(3), 0);
+            Bench.due("the block is new", b.count(3), 0);
             for (int other = 1; other <= 3; other++) {
                 Bench.due("authorize", b.authorize(root - 1, other), other == root ? -6 : -1);
             }
@@ -61,7 +61,7 @@ public final class TokenTest {
         }
         int[] counts = {5, 5, 8, 1, 0, 0};
         for (int what = 0; what < counts.length; what++) {
-            Bench.due("refused: count(" + what + ")", b.chain.count(what), counts[what]);
+            Bench.due("refused: count(" + what + ")", b.count(what), counts[what]);
         }
         for (int token = 0; token < 5; token++) {
             Bench.due("authorize(" + token + ", 2)", b.authorize(token, 2), -6);
@@ -84,14 +84,14 @@ public final class TokenTest {
         Bench.due("seal(1)", b.seal(1), 3);
         Bench.same("the sealed one", b.shown(3), "1 4 2 | 2 5 4 / sealed 5");
         Bench.same("the other stays", b.shown(1), "1 4 2 | 2 5 4 / open 5");
-        Bench.due("no new key", b.chain.count(2), 6);
-        Bench.due("no new block", b.chain.count(1), 3);
-        Bench.due("the block stays", b.chain.count(3), 1);
+        Bench.due("no new key", b.count(2), 6);
+        Bench.due("no new block", b.count(1), 3);
+        Bench.due("the block stays", b.count(3), 1);
         Bench.due("it is right", b.authorize(3, 2), -6);
         Bench.due("but not for another root", b.authorize(3, 1), -1);
         Bench.due("append to a sealed one", b.append(3), Bench.STATE);
         Bench.due("seal a sealed one", b.seal(3), Bench.STATE);
-        Bench.due("nothing was made", b.chain.count(0), 4);
+        Bench.due("nothing was made", b.count(0), 4);
         b.append(2);
         Bench.due("seal one with four links", b.seal(4), 5);
         Bench.due("it is right", b.authorize(5, 2), -6);
@@ -110,8 +110,8 @@ public final class TokenTest {
             Bench.due("tamper " + how, b.tamper(2, how, 0, 1), 4);
             Bench.same("tampered " + how, b.shown(4), open[how]);
             Bench.same("the other stays", b.shown(2), "1 4 2 | 2 5 4 | 3 6 5 / open 6");
-            Bench.due("keys", b.chain.count(2), how == 4 || how == 5 ? 8 : 7);
-            Bench.due("blocks", b.chain.count(1), 4);
+            Bench.due("keys", b.count(2), how == 4 || how == 5 ? 8 : 7);
+            Bench.due("blocks", b.count(1), 4);
         }
         String[] sealed = {
             "1 4 2 | 2 5 4 / sealed 6", "1 4 2 | 3 5 4 | 2 6 5 / sealed 6", "1 4 2 | 3 6 5 | 2 5 4 / sealed 6",
@@ -123,7 +123,7 @@ public final class TokenTest {
             b.block("x");
             Bench.due("tamper sealed " + how, b.tamper(3, how, 2, 1), 4);
             Bench.same("tampered sealed " + how, b.shown(4), sealed[how]);
-            Bench.due("the block stays", b.chain.count(3), 1);
+            Bench.due("the block stays", b.count(3), 1);
         }
     }
 
@@ -205,8 +205,8 @@ public final class TokenTest {
         }
         Bench.due("without its only link", b.tamper(0, 0, 0, 0), Bench.INDEX);
         Bench.due("signed anew, but sealed", b.tamper(3, 6, 0, 0), Bench.STATE);
-        Bench.due("nothing was made", b.chain.count(0), 4);
-        Bench.due("no key was made", b.chain.count(2), 6);
+        Bench.due("nothing was made", b.count(0), 4);
+        Bench.due("no key was made", b.count(2), 6);
         Bench.due("b does not count for 3", b.tamper(2, 3, 0, 99), 4);
         Bench.due("b does not count for 4", b.tamper(2, 4, 0, -99), 5);
         Bench.due("b does not count for 5", b.tamper(2, 5, 0, 3), 6);
@@ -235,7 +235,7 @@ public final class TokenTest {
         Bench.due("tamper(2, 7, 0, 0)", b.tamper(2, 7, 0, 0), Bench.INDEX);
         int[] counts = {16, 15, 18, 1, 0, 0};
         for (int what = 0; what < counts.length; what++) {
-            Bench.due("full: count(" + what + ")", b.chain.count(what), counts[what]);
+            Bench.due("full: count(" + what + ")", b.count(what), counts[what]);
         }
         Bench.due("the last one is right", b.authorize(15, 1), -6);
     }
