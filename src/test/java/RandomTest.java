@@ -1,3 +1,5 @@
+import java.util.HashMap;
+import java.util.Map;
 import java.util.Random;
 
 /** Promises 1 to 16: long runs of calls by chance, from fixed seeds, each answer held against the Model's. */
@@ -5,34 +7,64 @@ public final class RandomTest {
     private static final int RUNS = 8000;
     private static final int CALLS = 512;
     private static final String SIGNS = "pqABH019-+*/<>=#(),?! ";
+    /** Numbers whose sums and products lie at the edges of what a value may be, or just beyond. */
+    private static final int[] EDGES = {9, 10, 99, 100, 250, 271, 369, 400, 1000, 4295, 6553, 9999};
 
     private final Random random;
     private final Bench bench = new Bench();
     private final Model model = new Model();
     private final String name;
+    /** A run with many tokens, and not so many clauses. */
+    private final boolean manyTokens;
+    /** How often each call had each answer. */
+    private final Map<String, Integer> answers;
     private int calls;
 
-    private RandomTest(long seed) {
+    private RandomTest(long seed, Map<String, Integer> answers) {
         random = new Random(seed);
+        this.answers = answers;
         name = "run " + seed + ": ";
+        manyTokens = seed % 4 == 0;
     }
 
     public static void main(String[] args) {
-        int[] results = new int[17];
+        Map<String, Integer> answers = new HashMap<>();
         for (int run = 0; run < RUNS; run++) {
-            new RandomTest(run).run(results);
+            new RandomTest(run, answers).run();
         }
-        // A run by chance that never came to a result would have tested nothing of it.
+        // Runs by chance that never came to an answer would have tested nothing of it.
         for (int result = -6; result <= 1; result++) {
-            Bench.due("authorize() answered " + result + " at least 100 times", results[result + 6] >= 100 ? 1 : 0, 1);
+            often(answers, "authorize", result);
         }
+        for (String call : new String[] {"append", "seal", "tamper"}) {
+            often(answers, call, Bench.INDEX);
+            often(answers, call, Bench.STATE);
+        }
+        for (String call : new String[] {"clause", "desk", "issue"}) {
+            often(answers, call, Bench.ARGUMENT);
+            often(answers, call, Bench.STATE);
+        }
+        often(answers, "clause", Bench.UNSUPPORTED);
+        often(answers, "authorize", Bench.INDEX);
+        often(answers, "authorize", Bench.ARGUMENT);
+        often(answers, "fact", Bench.INDEX);
+        often(answers, "token", Bench.INDEX);
+        often(answers, "type", 0);
+        often(answers, "limits", 0);
+        often(answers, "count", -1);
         Bench.close();
     }
 
-    private void run(int[] results) {
+    private static void often(Map<String, Integer> answers, String call, int answer) {
+        int times = answers.getOrDefault(call + " " + answer, 0);
+        Bench.due(call + " answered " + Bench.name(answer) + " at least 100 times", times >= 100 ? 1 : 0, 1);
+    }
+
+    private void run() {
         calls = 0;
         while (calls < CALLS - 130) {
-            int dice = random.nextInt(24);
+            int dice = manyTokens && random.nextInt(3) > 0 ? 16 + random.nextInt(random.nextInt(8) + 1)
+                : random.nextInt(24);
             if (dice < 10) {
                 write(false);
             } else if (dice < 16) {
@@ -42,7 +74,7 @@ public final class RandomTest {
             } else if (dice < 19) {
                 tamper();
             } else if (dice < 22) {
-                authorize(results);
+                authorize();
             } else if (dice < 23) {
                 setLimits();
             } else {
@@ -129,7 +161,15 @@ public final class RandomTest {
     }
 
     private String term(String terms) {
-        return random.nextInt(12) == 0 ? "-" + random.nextInt(3) : "" + terms.charAt(random.nextInt(terms.length()));
+        int dice = random.nextInt(36);
+        if (dice == 0) {
+            return (random.nextBoolean() ? "-" : "") + edge();
+        }
+        return dice < 4 ? "-" + random.nextInt(3) : "" + terms.charAt(random.nextInt(terms.length()));
+    }
+
+    private int edge() {
+        return EDGES[random.nextInt(EDGES.length)];
     }
 
     private String sum(int depth, String known) {
@@ -143,7 +183,7 @@ public final class RandomTest {
     }
 
     private int number() {
-        return random.nextInt(6) == 0 ? 9999 : random.nextInt(4);
+        return random.nextInt(6) == 0 ? edge() : random.nextInt(4);
     }
 
     private void makeToken() {
@@ -163,20 +203,16 @@ public final class RandomTest {
     private void tamper() {
         int token = below(model.count(0));
         int how = below(7);
-        int a = below(3);
-        int b = below(3);
+        int a = below(4);
+        int b = below(4);
         check("tamper(" + token + ", " + how + ", " + a + ", " + b + ")", bench.tamper(token, how, a, b),
             model.tamper(token, how, a, b));
     }
 
-    private void authorize(int[] results) {
+    private void authorize() {
         int token = below(model.count(0));
         int root = random.nextInt(15) == 0 ? random.nextInt(5) : 1;
-        int got = bench.authorize(token, root);
-        check("authorize(" + token + ", " + root + ")", got, model.authorize(token, root));
-        if (got >= -6 && got <= 10) {
-            results[got + 6]++;
-        }
+        check("authorize(" + token + ", " + root + ")", bench.authorize(token, root), model.authorize(token, root));
         for (int what = 0; what < 4; what++) {
             check("latest(" + what + ")", bench.latest(what), model.latest(what));
         }
@@ -198,6 +234,7 @@ public final class RandomTest {
 
     private void check(String call, int got, int want) {
         calls++;
+        answers.merge(call.split("[( ]", 2)[0] + " " + got, 1, Integer::sum);
         Bench.due(name + "call " + calls + ", " + call, got, want);
     }
 }
