@@ -5,7 +5,10 @@ import java.util.Random;
 /** Promises 1 to 16: long runs of calls by chance, from fixed seeds, each answer held against the Model's. */
 public final class RandomTest {
     private static final int RUNS = 8000;
-    private static final int CALLS = 512;
+    /** More than the line can hold, so that some of it is refused. */
+    private static final int LONGEST_TEXT = 60;
+    /** Typing a text, making a clause of it, and clearing away what was refused. */
+    private static final int CALLS_OF_A_STEP = LONGEST_TEXT + 3;
     private static final String SIGNS = "pqABH019-+*/<>=#(),?! ";
     /** Numbers whose sums and products lie at the edges of what a value may be, or just beyond. */
     private static final int[] EDGES = {9, 10, 99, 100, 250, 271, 369, 400, 1000, 4295, 6553, 9999};
@@ -62,7 +65,7 @@ public final class RandomTest {
 
     private void run() {
         calls = 0;
-        while (calls < CALLS - 130) {
+        while (bench.callsLeft() >= CALLS_OF_A_STEP) {
             int dice = manyTokens && random.nextInt(3) > 0 ? 16 + random.nextInt(random.nextInt(8) + 1)
                 : random.nextInt(24);
             if (dice < 10) {
@@ -101,6 +104,7 @@ public final class RandomTest {
         if (random.nextInt(20) == 0) {
             text = text.replaceAll("(?<![0-9-])(?=.)", " ");
         }
+        text = text.substring(0, Math.min(text.length(), LONGEST_TEXT));
         for (char c : text.toCharArray()) {
             check("type " + c, bench.type(c), model.type(c));
         }
